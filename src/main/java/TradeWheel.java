@@ -12,7 +12,7 @@ public final class TradeWheel {
     private static final int FARTHEST_AGAIN = 60;
     private static final int MOST_ORDERS = 720;
     private static final int IMAGES = 2;
-    private static final int ANY = Integer.MAX_VALUE;
+    private static final int ANY = 0x7fffffff;
 
     private final Text text = new Text();
     private final Tunes tunes = new Tunes();

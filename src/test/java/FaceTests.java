@@ -24,7 +24,7 @@ public final class FaceTests {
         "int count(int)", "long trace()"};
     private static final String[] NEVER = {"throw", "throws", "try", "catch", "finally", "synchronized", "assert", "native", "volatile",
         "goto", "float", "double", "Object", "Exception", "Thread", "System.out", "System.err", "System.exit", "->", "::", "package", "Exact",
-        "hashCode", "toString", "yield", "var"};
+        "hashCode", "toString", "yield", "var", "MAX_VALUE", "MIN_VALUE"};
 
     public static void main(String[] args) throws Exception {
         face();

@@ -2,9 +2,8 @@
 public final class PromiseTests {
     private static final int BAD = TradeWheel.BAD, STATE = TradeWheel.STATE, FULL = TradeWheel.FULL;
     private static final int NONE = TradeWheel.NONE, NO = TradeWheel.NO;
-    private static final int LOW = Integer.MIN_VALUE, HIGH = Integer.MAX_VALUE;
-    private static final String SIX_TRADES = "trade 0 1;trade 0 1;trade 0 1;trade 0 1;trade 0 1;trade 0 1;";
-    private static final String SIX_PEOPLE = "person;person;person;person;person;person;";
+    private static final int LOW = Scenes.LOW, HIGH = Scenes.HIGH;
+    private static final String SIX_TRADES = Scenes.SIX_TRADES, SIX_PEOPLE = Scenes.SIX_PEOPLE;
     /** Worked out round by round in goesByRounds(). */
     private static final String MILL = "trade 10 2;trade 4 1;person;person;person;skill 0 0 5;skill 1 1 0;skip 2 0;";
     /** One trade and three people, the last of whom skips it. */
